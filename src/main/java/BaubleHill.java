@@ -17,8 +17,8 @@ public final class BaubleHill {
     private final Choice choice = new Choice();
     private final Cutting cutting = new Cutting();
     private final Year years = new Year();
-    private final Image first = new Image();
-    private final Image second = new Image();
+    private final Image firstImage = new Image();
+    private final Image secondImage = new Image();
 
     public BaubleHill() {
     }
@@ -69,7 +69,7 @@ public final class BaubleHill {
     }
 
     public int done() {
-        if (!canBeTold()) return NO;
+        if (!telling.tell(pad, hill)) return NO;
         hill.copyFrom(telling.hill());
         pad.clear();
         return telling.acts();
@@ -78,7 +78,7 @@ public final class BaubleHill {
     public int behind(int ball, int what) {
         if (!isBall(ball)) return UNKNOWN;
         if (what < 0 || what > 2) return OUTSIDE;
-        if (!canBeTold()) return NO;
+        if (!telling.tell(pad, hill)) return NO;
         switch (what) {
             case 0: return telling.hill().loopOf(ball);
             case 1: return telling.hill().chipsOf(ball);
@@ -88,7 +88,7 @@ public final class BaubleHill {
 
     public int then(int what) {
         if (what < 0 || what > 5) return OUTSIDE;
-        if (!canBeTold()) return NO;
+        if (!telling.tell(pad, hill)) return NO;
         switch (what) {
             case 0: return telling.hill().hungLoops();
             case 1: return telling.hill().brokenBalls();
@@ -238,12 +238,8 @@ public final class BaubleHill {
         }
     }
 
-    private boolean canBeTold() {
-        return pad.firstWrong() == NONE && telling.tell(pad, hill);
-    }
-
     private Image imageOf(int n) {
-        return n == 0 ? first : second;
+        return n == 0 ? firstImage : secondImage;
     }
 
     private static boolean isLoop(int loop) {
@@ -293,23 +289,28 @@ public final class BaubleHill {
             copyRow(other.parents, parents);
         }
 
-        /** The LOOPS of the way from one to the other, both of them too, as bits. */
-        int way(int a, int b) {
-            int bits = 1 << a | 1 << b;
+        int distance(int a, int b) {
+            int far = 0;
             int low = Math.min(a, b);
             int high = Math.max(a, b);
             for (int step = 0; step < 2 * LOOPS && low != high; step++) {
                 // The greater one can not be above the other, so the way goes by its PARENT.
                 int up = parentOf(high);
-                bits |= 1 << up;
                 high = Math.max(low, up);
                 low = Math.min(low, up);
+                far++;
             }
-            return bits;
+            return far;
         }
 
-        int distance(int a, int b) {
-            return Integer.bitCount(way(a, b)) - 1;
+        /** The LOOPS of the way from one to the other, both of them too, as bits. */
+        int way(int a, int b) {
+            int length = distance(a, b);
+            int bits = 0;
+            for (int loop = 0; loop < LOOPS; loop++) {
+                if (distance(a, loop) + distance(loop, b) == length) bits |= 1 << loop;
+            }
+            return bits;
         }
 
         /** The LOOPS that are APART from one by least to most, as bits. */
@@ -614,32 +615,31 @@ public final class BaubleHill {
         private int actThatBroke = NONE;
         private int ballThatBroke = NONE;
 
-        /** Follows a text without a FAULT up to its end, or to the first ACT that can not be: whether all can. */
+        /** Follows a text up to its end, or to the first ACT that can not be: whether it has no FAULT and all can. */
         boolean tell(Pad pad, Hill from) {
             hill.copyFrom(from);
             acts = 0;
             why = 0;
             actThatBroke = NONE;
             ballThatBroke = NONE;
+            if (pad.firstWrong() != NONE) return false;
             int place = 0;
             for (int turn = 0; turn < SIGNS && place < pad.size(); turn++) {
                 place = pad.read(place, act);
                 why = hill.whyNot(act);
                 if (why != 0) return false;
-                followAct();
+                int before = hill.brokenBalls();
+                hill.follow(act);
+                noteBroken(hill.brokenBalls() & ~before);
+                acts++;
             }
             return true;
         }
 
-        private void followAct() {
-            int before = hill.brokenBalls();
-            hill.follow(act);
-            int fresh = hill.brokenBalls() & ~before;
-            if (fresh != 0 && actThatBroke == NONE) {
-                actThatBroke = acts;
-                ballThatBroke = memberAt(fresh, 0);
-            }
-            acts++;
+        private void noteBroken(int fresh) {
+            if (fresh == 0 || actThatBroke != NONE) return;
+            actThatBroke = acts;
+            ballThatBroke = memberAt(fresh, 0);
         }
 
         Hill hill() {

@@ -61,6 +61,11 @@ public final class FaceTest {
         }
     }
 
+    private static boolean bearsNameOfTheFace(Method method) {
+        for (String face : METHODS) if (face.startsWith(method.getName() + "/")) return true;
+        return false;
+    }
+
     private static void classes() {
         Class<?>[] inside = BaubleHill.class.getDeclaredClasses();
         check("twelve classes at the most", inside.length + 1 <= 12);
@@ -73,6 +78,7 @@ public final class FaceTest {
             }
             for (Method method : c.getDeclaredMethods()) {
                 check(method + " has seven parameters at the most", method.getParameterCount() <= 7);
+                check(method + " does not bear a name of the face", !bearsNameOfTheFace(method));
             }
         }
     }

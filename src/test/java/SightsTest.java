@@ -69,6 +69,9 @@ public final class SightsTest {
         ask("path, d or h", path, 0, 1);
         T.due("ask 2", path.ask(2), -2);
         T.due("ask -1", path.ask(-1), -2);
+        path.forget();
+        path.seen(11, 0);
+        ask("path, l, as far from a as can be", path, 0, 1);
         path.seen(5, 3);
         ask("path, none fits", path, -6, -6);
         T.due("ask 2, none fits", path.ask(2), -2);

@@ -68,6 +68,8 @@ public final class TissueAndYearTest {
         hill.ball(3, 5, 0);
         year("another one hangs on f", hill, 1045, 1, new int[] {3, 10, 0});
         hill = hung();
+        // Seed 0 makes 74: C is PACKED.
+        year("C is PACKED", hill, 0, 1, new int[] {2, 10, 0});
         year("A is PACKED", hill, 877, 1, new int[] {2, 10, 0});
         year("B is PACKED", hill, 1747, 1, new int[] {2, 10, 0});
         // d and e are APART by 2, d and h by 1, e and h by 3.
