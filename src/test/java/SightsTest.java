@@ -2,18 +2,6 @@
 public final class SightsTest {
     private static final Due T = new Due();
 
-    private static BaubleHill path() {
-        BaubleHill hill = new BaubleHill();
-        for (int loop = 1; loop < 12; loop++) hill.branch(loop, loop - 1);
-        return hill;
-    }
-
-    private static BaubleHill star() {
-        BaubleHill hill = new BaubleHill();
-        for (int loop = 1; loop < 12; loop++) hill.branch(loop, 0);
-        return hill;
-    }
-
     private static void seenAndForget() {
         BaubleHill hill = new BaubleHill();
         T.due("seen 12 12, UNKNOWN before OUTSIDE", hill.seen(12, 12), -1);
@@ -36,7 +24,7 @@ public final class SightsTest {
     }
 
     private static void where() {
-        BaubleHill hill = path();
+        BaubleHill hill = Trees.path();
         for (int i = 0; i < 12; i++) T.due("where " + i, hill.where(i), i);
         T.due("where 12", hill.where(12), -6);
         hill.seen(5, 2);
@@ -63,7 +51,7 @@ public final class SightsTest {
 
     private static void ask() {
         ask("at first", new BaubleHill(), 3, 3);
-        BaubleHill path = path();
+        BaubleHill path = Trees.path();
         ask("path", path, 0, 1);
         path.seen(5, 2);
         ask("path, d or h", path, 0, 1);
@@ -75,7 +63,7 @@ public final class SightsTest {
         path.seen(5, 3);
         ask("path, none fits", path, -6, -6);
         T.due("ask 2, none fits", path.ask(2), -2);
-        BaubleHill star = star();
+        BaubleHill star = Trees.star();
         ask("star", star, 1, 10);
         star.seen(0, 0);
         ask("star, one fits", star, 0, 1);
@@ -98,16 +86,16 @@ public final class SightsTest {
         T.due("cut -1", hill.cut(-1), -2);
         hill.ball(0, 7, 0);
         cut("at first, a BALL on h", hill, 7);
-        cut("path", path(), 1);
-        cut("star", star(), 1);
-        BaubleHill two = path();
+        cut("path", Trees.path(), 1);
+        cut("star", Trees.star(), 1);
+        BaubleHill two = Trees.path();
         two.branch(6, 0);
         // Stalks of five and of six: the longer one is cut at its tip.
         cut("two stalks", two, 11);
         two.branch(2, 0);
         // Stalks of one, four and six: six must become five.
         cut("three stalks", two, 11);
-        BaubleHill short3 = path();
+        BaubleHill short3 = Trees.path();
         short3.branch(3, 0);
         short3.branch(5, 0);
         // Stalks of two, two and seven: the long one goes whole.

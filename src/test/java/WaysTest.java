@@ -2,18 +2,6 @@
 public final class WaysTest {
     private static final Due T = new Due();
 
-    private static BaubleHill path() {
-        BaubleHill hill = new BaubleHill();
-        for (int loop = 1; loop < 12; loop++) hill.branch(loop, loop - 1);
-        return hill;
-    }
-
-    private static BaubleHill star() {
-        BaubleHill hill = new BaubleHill();
-        for (int loop = 1; loop < 12; loop++) hill.branch(loop, 0);
-        return hill;
-    }
-
     private static void ways() {
         BaubleHill hill = new BaubleHill();
         T.due("apart a a", hill.apart(0, 0), 0);
@@ -40,16 +28,16 @@ public final class WaysTest {
             T.due("meets 0 of " + loop, hill.meets(loop, 0), -1);
             T.due("meets twice " + loop, hill.meets(loop, loop), -1);
         }
-        BaubleHill path = path();
+        BaubleHill path = Trees.path();
         T.due("path: apart a l", path.apart(0, 11), 11);
         T.due("path: meets c j", path.meets(2, 9), 2);
-        BaubleHill star = star();
+        BaubleHill star = Trees.star();
         T.due("star: apart b l", star.apart(1, 11), 2);
         T.due("star: meets b l", star.meets(1, 11), 0);
     }
 
     private static void sees() {
-        BaubleHill hill = path();
+        BaubleHill hill = Trees.path();
         T.due("sees, packed", hill.sees(0), -3);
         T.due("sees 6", hill.sees(6), -1);
         T.due("sees -1", hill.sees(-1), -1);
@@ -67,7 +55,7 @@ public final class WaysTest {
         Due.write(hill, "D_");
         hill.done();
         T.due("C sees both again", hill.sees(2), 33);
-        BaubleHill star = star();
+        BaubleHill star = Trees.star();
         for (int ball = 0; ball < 5; ball++) star.ball(ball, ball + 1, 0);
         T.due("star: A sees all others", star.sees(0), 30);
         star.ball(5, 0, 0);
@@ -80,7 +68,7 @@ public final class WaysTest {
     }
 
     private static void near() {
-        BaubleHill hill = path();
+        BaubleHill hill = Trees.path();
         near("none hangs", hill, new int[] {-6, -6, -6, -6});
         T.due("near 4", hill.near(4), -2);
         T.due("near -1", hill.near(-1), -2);
@@ -95,7 +83,7 @@ public final class WaysTest {
         hill.ball(2, -1, 0);
         near("c g, the least", hill, new int[] {2, 4, 4, 2});
         T.due("near 4, some hang", hill.near(4), -2);
-        BaubleHill star = star();
+        BaubleHill star = Trees.star();
         star.ball(0, 3, 0);
         star.ball(1, 9, 0);
         near("star: d j", star, new int[] {0, 2, 0, 1});
@@ -114,7 +102,7 @@ public final class WaysTest {
     }
 
     private static void sets() {
-        BaubleHill path = path();
+        BaubleHill path = Trees.path();
         room("path", path, 0, 12, 4095);
         room("path", path, 1, 6, 1365);
         room("path", path, 2, 4, 585);
@@ -127,13 +115,13 @@ public final class WaysTest {
         candles("path", path, 5, 2, 65);
         candles("path", path, 6, 1, 32);
         candles("path", path, 11, 1, 1);
-        BaubleHill star = star();
+        BaubleHill star = Trees.star();
         room("star", star, 1, 11, 4094);
         room("star", star, 2, 1, 1);
         candles("star", star, 0, 12, 4095);
         candles("star", star, 1, 1, 1);
         // A path with two tips, k and l, on j.
-        BaubleHill fir = path();
+        BaubleHill fir = Trees.path();
         fir.branch(11, 9);
         room("fir", fir, 1, 7, 3413);
         candles("fir", fir, 1, 4, 585);
