@@ -1,9 +1,5 @@
-import java.lang.reflect.InvocationTargetException;
-import java.lang.reflect.Method;
 import java.util.ArrayList;
-import java.util.HashMap;
 import java.util.List;
-import java.util.Map;
 
 /** Tests of single sentences of the document. Calls are written as texts: "ball 0 3 8" is ball(0, 3, 8). */
 abstract class Edges {
@@ -11,12 +7,7 @@ abstract class Edges {
     static final long LOST = -1000000000000000000L;
     static final int LEAST = Integer.MIN_VALUE, MOST = Integer.MAX_VALUE;
     private static final int CALLS = 512;
-    private static final Map<String, Method> METHODS = new HashMap<>();
     private static final List<String> VIEW = view();
-
-    static {
-        for (Method method : BaubleHill.class.getMethods()) METHODS.put(method.getName(), method);
-    }
 
     private final Doc doc;
     private final Due due;
@@ -122,12 +113,9 @@ abstract class Edges {
         String[] words = call.split(" ");
         Object[] numbers = new Object[words.length - 1];
         for (int i = 0; i < numbers.length; i++) numbers[i] = Integer.valueOf(words[i + 1]);
-        try {
-            return ((Number) METHODS.get(words[0]).invoke(to, numbers)).longValue();
-        } catch (InvocationTargetException | IllegalAccessException e) {
-            due.due(about + call + " throws " + e.getCause(), 1, 0);
-            return Long.MIN_VALUE;
-        }
+        long answer = Calls.answer(to, words[0], numbers);
+        if (answer == Calls.THROWN) due.due(about + call + " throws", 1, 0);
+        return answer;
     }
 
     /** Calls by which all that a hill holds is seen: its now, its PAD, and its IMAGES. */

@@ -8,6 +8,8 @@ import java.util.Arrays;
 import java.util.HashSet;
 import java.util.List;
 import java.util.Set;
+import java.util.regex.Matcher;
+import java.util.regex.Pattern;
 
 /** The public face, and those rules of LANGUAGE.md that can be read off the class and its text. */
 public final class FaceTest {
@@ -83,6 +85,33 @@ public final class FaceTest {
         }
     }
 
+    /** Each line of the document's face stands in the class, and each of its parts below its heading. */
+    private static void document() throws java.io.IOException {
+        String doc = Files.readString(Path.of("../shared/DOC.md"));
+        String text = Files.readString(Path.of("src/main/java/BaubleHill.java"));
+        int lines = 0;
+        for (String line : doc.substring(doc.indexOf("```java"), doc.indexOf("## Terms")).split("\n")) {
+            if (!line.startsWith("    public ")) continue;
+            lines++;
+            check("the class has" + line, text.contains("\n" + (line.contains("(") ? line.replace(";", " {") : line) + "\n"));
+        }
+        T.due("lines of the face", lines, 2 + 1 + METHODS.size());
+        Matcher part = Pattern.compile("(?m)^Ahead of the calls (.*) the interface says: (.*)\\.$").matcher(doc);
+        int calls = 0;
+        int end = 0;
+        while (part.find()) {
+            int heading = text.indexOf("// " + part.group(2) + "\n");
+            check(part.group(2) + " is ahead of its calls", heading > end);
+            for (String name : part.group(1).replaceAll("[`,]", "").split(" ")) {
+                int call = text.indexOf(" " + name + "(", heading);
+                check(name + " follows " + part.group(2), call > Math.max(heading, end));
+                end = call;
+                calls++;
+            }
+        }
+        T.due("calls below headings", calls, METHODS.size());
+    }
+
     private static void text() throws java.io.IOException {
         List<String> lines = Files.readAllLines(Path.of("src/main/java/BaubleHill.java"));
         for (String line : lines) {
@@ -95,6 +124,7 @@ public final class FaceTest {
         constants();
         members();
         classes();
+        document();
         text();
         T.end();
     }
